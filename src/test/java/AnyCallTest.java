@@ -33,11 +33,17 @@ public final class AnyCallTest {
             for (int k = 0; k < given.length; k++) {
                 given[k] = lot.nextInt(3) > 0 ? lot.nextInt(6) : lot.nextInt(3) > 0 ? ODD[lot.nextInt(ODD.length)] : lot.nextInt();
             }
-            try {
-                call.invoke(x, given);
-            } catch (InvocationTargetException thrown) {
-                Due.is(call.getName() + Arrays.toString(given) + " threw " + thrown.getCause(), 1, 0);
-            }
+            Due.is(call.getName() + Arrays.toString(given) + " throws", throwsAt(call, x, given) ? 1 : 0, 0);
+        }
+    }
+
+    private static boolean throwsAt(Method call, BentBranches x, Object[] given) throws Exception {
+        try {
+            call.invoke(x, given);
+            return false;
+        } catch (InvocationTargetException thrown) {
+            System.out.println(thrown.getCause());
+            return true;
         }
     }
 

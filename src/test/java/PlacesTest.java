@@ -24,6 +24,7 @@ public final class PlacesTest {
         Due.is("value(0, 0, 0)", x.value(0, 0, 0), 7);
         Due.is("value(0, 2, 3)", x.value(0, 2, 3), 7 + 12 - 243 + 16);
         Due.is("value(0, -9, 9)", x.value(0, -9, 9), 7 - 162 - 3 * 6561 + 6561);
+        Due.is("value(0, 9, -9)", x.value(0, 9, -9), 7 - 162 + 3 * 6561 + 6561 - 6 * 6561);
         x.turns(0, 1);
         Due.is("turned", x.value(0, 2, 3), 7 + 12 - 48 + 81);
         x.turns(0, 4);
@@ -49,6 +50,8 @@ public final class PlacesTest {
         Due.is("x y y y on the x line", x.times(1, 805), 3);
         Due.is("x y y y on the y line", x.times(1, 509), 1);
         x.curve(0);
+        Due.curve(x, 0, 4, 1);
+        Due.is("y y y y", x.times(3, 205), 4);
         Due.is("none", x.times(2, 0), 17);
         Due.is("none at the far end", x.times(2, 1010), 17);
     }
@@ -129,12 +132,14 @@ public final class PlacesTest {
         Due.is("twice", x.often(1, MIDDLE, 0), 2);
         Due.curve(x, 0, 20, 3);
         Due.is("LOWEST without t", x.often(2, MIDDLE, 0), 0);
+        Due.curve(x, 0, 4, 2);
+        Due.is("four times", x.often(3, MIDDLE, 0), 4);
         Due.is("t 6", x.often(0, MIDDLE, 6), BAD);
         Due.is("t -6", x.often(0, MIDDLE, -6), BAD);
         Due.is("TIMES 0", x.often(0, 706, 0), NO);
         x.curve(0);
-        Due.is("TIMES 17", x.often(3, MIDDLE, 0), NO);
-        Due.is("TIMES 17, t 6", x.often(3, MIDDLE, 6), BAD);
+        Due.is("TIMES 17", x.often(4, MIDDLE, 0), NO);
+        Due.is("TIMES 17, t 6", x.often(4, MIDDLE, 6), BAD);
     }
 
     private static void blown() {
@@ -159,6 +164,9 @@ public final class PlacesTest {
         Due.curve(x, 0, 3, 1, 40, -1);
         Due.is("y3 - x4 at 0", x.blown(2, MIDDLE, 0, 6), 1);
         Due.is("y3 - x4 at 0, 0", x.blown(2, MIDDLE, 0, 0), 0);
+        Due.curve(x, 0, 4, 1);
+        Due.is("y4 at 0, 0", x.blown(3, MIDDLE, 0, 0), 4);
+        Due.is("y4 at 5, 6", x.blown(3, MIDDLE, 5, 6), 0);
     }
 
     private static void tree() {
@@ -183,6 +191,9 @@ public final class PlacesTest {
         Due.is("plain, SHAPES", x.tree(2, MIDDLE, 3, 0), 3);
         Due.is("plain, BELONGS", x.tree(2, MIDDLE, 3, 1), 0);
         Due.is("plain, ENDS", x.tree(2, MIDDLE, 3, 2), 1);
+        // (y - 5x)(y + 5x): the slopes at both ends are followed
+        Due.curve(x, 0, 2, 1, 20, -25);
+        Due.is("slopes of 5 and -5", x.tree(3, MIDDLE, 3, 2), 2);
         // the text sees TIMES of each SHAPE of TREE
         Due.text(x, "slope m>1");
         Due.is("only knots are followed", x.tree(0, MIDDLE, 3, 0), 4);
@@ -191,7 +202,7 @@ public final class PlacesTest {
         Due.is("one of two", x.tree(0, MIDDLE, 3, 0), 3);
         x.curve(0);
         for (int what = 0; what < 3; what++) {
-            Due.is("TIMES 17", x.tree(3, MIDDLE, 3, what), 0);
+            Due.is("TIMES 17", x.tree(4, MIDDLE, 3, what), 0);
         }
         Due.is("n 0", x.tree(0, MIDDLE, 0, 0), BAD);
         Due.is("n 4", x.tree(0, MIDDLE, 4, 0), BAD);
@@ -241,6 +252,22 @@ public final class PlacesTest {
         Due.curve(x, 0, 0, 1, 22, 1);
         Due.is("above -1", x.power(0, MIDDLE, 0), -1);
         Due.is("below -1", x.power(0, MIDDLE, 1), 1);
+        // x4, x3 y, yy: 4/2 is more than 1
+        powerIs(2, 1, 40, 30 + 1, 2);
+        // x3 y, xx yy, y3: 3/2 is more than 1
+        powerIs(3, 2, 31, 22, 3);
+        // x3 y, x yy, y3: 2 is more than 3/2; so it is more than 3/3 of y4
+        powerIs(2, 1, 31, 12, 3);
+        powerIs(2, 1, 31, 12, 4);
+        // x3 y, y3: 3/2, from a least j of 1
+        powerIs(3, 2, 31, 3, 3);
+    }
+
+    private static void powerIs(int above, int below, int... numbers) {
+        BentBranches x = new BentBranches();
+        Due.curve(x, 0, numbers[0], 1, numbers[1], -1, numbers[2], 1);
+        Due.is("above " + above, x.power(0, MIDDLE, 0), above);
+        Due.is("below " + below, x.power(0, MIDDLE, 1), below);
     }
 
     private static void refusals() {

@@ -51,6 +51,12 @@ public final class RowsTest {
         Due.is("of all, two", checked(x, 1, 2, 0, 17, 1, 17), 0);
         Due.is("of all, three wanted", checked(x, 1, 3, 0, 17, 1, 17), 5);
         Due.is("of all, one wanted", checked(x, 1, 1, 0, 17, 1, 17), 3);
+        // y - 5x, with three places, each once
+        Due.curve(x, 0, 1, 1, 10, -5);
+        x.keep();
+        Due.is("plain places", checked(x, 3, 30, 400, 1, 505, 1, 610, 1), 0);
+        Due.is("plain places, the first two", checked(x, 3, 2, 400, 1, 505, 1), 0);
+        Due.is("plain places, one is missing", checked(x, 3, 30, 400, 1, 505, 1), 5);
         int[] thirty = new int[60];
         for (int n = 0; n < 30; n++) {
             thirty[2 * n] = n / 11 * 100 + n % 11;

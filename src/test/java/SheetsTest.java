@@ -101,6 +101,8 @@ public final class SheetsTest {
         Due.is("NO NUMBER: c stays", x.term(0, 11, 0), 99);
         Due.is("c of 10, held", x.term(0, 10, 0), 99);
         Due.is("beyond the row", x.term(0, 40, 0), -99);
+        x.put(0, 12, 8);
+        Due.is("none right beyond the row", x.pour(1, 0), 0);
         x.sheet(2, 1, 0);
         Due.is("an empty row", x.pour(2, 0), 0);
         Due.is("MISSING", x.pour(3, 0), NOTHING);

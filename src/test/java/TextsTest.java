@@ -74,6 +74,10 @@ public final class TextsTest {
         fault("term i1", 6);
         fault("term ij", 5);
         fault("termi", 0);
+        fault("terma", 0);
+        fault("termz i", 0);
+        fault("term ia", 5);
+        fault("term iz", 5);
         fault("term1", 4);
         fault("term 1", -1);
         fault("term(1)", -1);
@@ -125,6 +129,9 @@ public final class TextsTest {
         fault("slope ! ! t", -1);
         fault("mark 1 0", 7);
         fault("m ark x", 0);
+        fault(" ".repeat(96), 96);
+        fault(" ".repeat(90) + "term i", -1);
+        fault("term i" + " ".repeat(90), -1);
     }
 
     private static void depths() {

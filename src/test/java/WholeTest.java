@@ -30,6 +30,9 @@ public final class WholeTest {
         // y - x x at 1, 1: 2 is the slope there
         Due.curve(x, 0, 1, 1, 20, -1);
         Due.is("touches", x.line(2, 606, 2), 2);
+        Due.is("off it, upright", x.line(2, 505 + 1, 6), 0);
+        Due.curve(x, 0, 4, 1);
+        Due.is("y4, upright", x.line(3, MIDDLE, 6), 4);
         Due.is("t 7", x.line(2, 606, 7), BAD);
         Due.is("t -6", x.line(2, 606, -6), BAD);
     }
@@ -93,7 +96,10 @@ public final class WholeTest {
         Due.is("BELONGS 2", x.genus(4), 1);
         Due.text(x, "slope 0");
         Due.is("nothing is followed", x.genus(4), 2);
-        x.curve(0);
+        // (x + 5)(y + 5): its knot is the first place of all
+        Due.curve(x, 0, 11, 1, 10, 5, 1, 5, 0, 25);
+        Due.is("a knot at -5, -5", x.genus(5), -1);
+        x.mix(5, 5, 5, 1);
         Due.is("DEGREE -1", x.genus(5), NO);
         Due.is("curve 6", x.genus(6), BAD);
         Due.is("curve -1", x.genus(-1), BAD);
