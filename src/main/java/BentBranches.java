@@ -764,12 +764,12 @@ public final class BentBranches {
         }
 
         long number(int i, int j) {
-            int index = has(i, j) ? i * ROW + j : -1;
+            int index = j < 0 || j > TOP ? -1 : i * ROW + j;
             return index < 0 || index >= numbers.length ? 0 : numbers[index];
         }
 
         void add(int i, int j, long v) {
-            int index = has(i, j) ? i * ROW + j : -1;
+            int index = j < 0 || j > TOP ? -1 : i * ROW + j;
             if (index >= 0 && index < numbers.length) {
                 numbers[index] += v;
             }
