@@ -280,7 +280,10 @@ public final class BentBranches {
         if (first == null || second == null) {
             return BAD;
         }
-        return view.placesOnBoth(first, second);
+        view.walk(first);
+        view.setAside();
+        view.walk(second);
+        return view.placesOnBoth();
     }
 
     // ---- texts
@@ -1089,10 +1092,12 @@ public final class BentBranches {
             return found;
         }
 
-        int placesOnBoth(Curve one, Curve other) {
-            walk(one);
+        /** Keeps TIMES of the walk before, while another curve is walked. */
+        void setAside() {
             System.arraycopy(times, 0, earlier, 0, FIELD);
-            walk(other);
+        }
+
+        int placesOnBoth() {
             int found = 0;
             for (int n = 0; n < FIELD; n++) {
                 if (times[n] >= 1 && earlier[n] >= 1) {

@@ -1,4 +1,6 @@
 import java.nio.charset.StandardCharsets;
+import java.util.ArrayList;
+import java.util.List;
 
 /** What the tests share: answers that are due, and short ways to say longer runs of calls. */
 final class Due {
@@ -27,11 +29,20 @@ final class Due {
 
     /** Feeds a text to THE TAPE and cuts off what fills up its last twelve bytes. */
     static void feed(BentBranches x, String text) {
-        byte[] bytes = text.getBytes(StandardCharsets.ISO_8859_1);
-        for (int at = 0; at < bytes.length; at += 12) {
-            x.feed(four(bytes, at), four(bytes, at + 4), four(bytes, at + 8));
+        for (int[] part : twelves(text)) {
+            x.feed(part[0], part[1], part[2]);
         }
-        x.trim(bytes.length);
+        x.trim(text.length());
+    }
+
+    /** A text as the numbers that feed it, blanks behind it. */
+    static List<int[]> twelves(String text) {
+        byte[] bytes = text.getBytes(StandardCharsets.ISO_8859_1);
+        List<int[]> all = new ArrayList<>();
+        for (int at = 0; at < bytes.length; at += 12) {
+            all.add(new int[] {four(bytes, at), four(bytes, at + 4), four(bytes, at + 8)});
+        }
+        return all;
     }
 
     private static int four(byte[] bytes, int at) {

@@ -11,7 +11,7 @@ public final class LanguageTest {
         "\\bthrow\\b", "\\bthrows\\b", "\\btry\\b", "\\bcatch\\b", "\\bsynchronized\\b", "\\bassert\\b", "->", "::", "@",
         "\\bpackage\\b", "\\bprotected\\b", "\\bNaN\\b", "\\w+Exact\\b", "System\\.(?!arraycopy\\b)", "Math\\.(?!(max|min|abs)\\b)",
         "Arrays\\.(?!(fill|copyOf)\\b)", "import (?!java\\.util\\.Arrays;)", "java\\.(?!util\\.Arrays;)", "\\bstatic \\{",
-        "\\bhashCode\\b", "\\btoString\\b", "\\bObject\\b", "\\bThread\\b", "\\bRandom\\b", "while \\(true\\)", "for \\(;;",
+        "\" *\\+", "\\+ *\"", "\\bhashCode\\b", "\\btoString\\b", "\\bObject\\b", "\\bThread\\b", "\\bRandom\\b", "while \\(true\\)", "for \\(;;",
     };
     private static final String[] FACE = {
         "curve", "put", "term", "told", "as", "turns", "mix", "deal", "seed", "value", "times", "shape", "lowest", "slopes", "often",
@@ -61,6 +61,10 @@ public final class LanguageTest {
     private static void classes(String code) {
         int inside = BentBranches.class.getDeclaredClasses().length;
         Due.is("at most some twelve classes", inside < 12 ? 1 : 0, 1);
+        fields(BentBranches.class);
+        for (Class<?> one : BentBranches.class.getDeclaredClasses()) {
+            fields(one);
+        }
         Matcher all = Pattern.compile("(?m)^ *(.*)\\b(class|record|enum|interface) \\w+").matcher(code);
         while (all.find()) {
             boolean outer = all.group(1).equals("public final ");
@@ -71,6 +75,14 @@ public final class LanguageTest {
                 Due.is("a public name again: " + method, Arrays.asList(FACE).contains(method.getName()) ? 1 : 0, 0);
             }
         }
+    }
+
+    private static void fields(Class<?> one) {
+        int found = 0;
+        for (var field : one.getDeclaredFields()) {
+            found += java.lang.reflect.Modifier.isStatic(field.getModifiers()) ? 0 : 1;
+        }
+        Due.is("at most some twenty fields in " + one, found <= 20 ? 1 : 0, 1);
     }
 
     /** No method is longer than sixty lines or takes more than seven parameters. */
