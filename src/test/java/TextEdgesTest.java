@@ -272,8 +272,10 @@ public final class TextEdgesTest {
         }
         for (int length = 1; length <= 96; length++) {
             fault(" ".repeat(length), length);
-            fault("term (i" + "+i".repeat(44) + "        ".substring(0, 1), 96);
         }
+        fault("term (i" + "+i".repeat(44), 95);
+        fault("term (i" + "+i".repeat(44) + " ", 96);
+        fault("term (i" + "+i".repeat(44) + ")", -1);
         fault("term " + "i+".repeat(45) + "i", -1);
         fault("term " + "i+".repeat(45) + "(", 96);
         fault("term " + "i+".repeat(45) + " ", 96);
